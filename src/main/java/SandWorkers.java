@@ -305,9 +305,7 @@ public final class SandWorkers {
     }
 
     public int clearText() {
-        int had = orders.length;
-        orders.length = 0;
-        return had;
+        return orders.clear();
     }
 
     public int fault(int what) {
@@ -1027,6 +1025,12 @@ public final class SandWorkers {
             text[length] = character;
             length++;
             return length;
+        }
+
+        int clear() {
+            int had = length;
+            length = 0;
+            return had;
         }
 
         /** Does the orders in a game, up to the first that is not possible; tells if all were. */

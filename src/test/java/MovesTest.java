@@ -18,6 +18,7 @@ public final class MovesTest {
         buyRefuses();
         passRunsSand();
         passOrdersWorks();
+        passFlipsLittleSand();
         passRefuses();
         Due.end();
     }
@@ -247,6 +248,23 @@ public final class MovesTest {
         // 10 is done; 12 is flipped each time before it ends.
         Due.is("P10 points by effect", x.playerOf(1, 3), 1);
         Due.is("P10 flipped without an end", x.workerOf(1, 2, 5), 12);
+    }
+
+    /** One second above is flipped, too; none is not. */
+    private static void passFlipsLittleSand() {
+        SandWorkers x = Due.players(1);
+        x.task(3, 0, 0, 1);
+        x.size(0, 0, 10);
+        x.size(0, 1, 11);
+        x.size(0, 2, 12);
+        x.put(0, 0, 0);
+        x.put(0, 1, 0);
+        x.put(0, 2, 0);
+        Due.is("P10 the first", x.pass(10), 1);
+        Due.is("P10 1 of 11 is flipped", x.workerOf(0, 1, 2), 10);
+        Due.is("P10 2 of 12 is flipped", x.workerOf(0, 2, 2), 10);
+        Due.is("P10 two at once", x.pass(10), 2);
+        Due.is("P10 none is not", x.count(5), 2);
     }
 
     private static void passRefuses() {

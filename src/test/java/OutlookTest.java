@@ -21,6 +21,7 @@ public final class OutlookTest {
         countTellsWhoIsAhead();
         undoRestores();
         undoKeepsFour();
+        looksLeaveNothingBehind();
         Due.end();
     }
 
@@ -99,6 +100,10 @@ public final class OutlookTest {
         Due.is("P18 its own place counts", x.best(0, 0, 0), 2);
         Due.is("P18 not for the other", x.best(1, 0, 0), 4);
         Due.is("P18 asking puts nobody", x.taskOf(4, 4), 1);
+        SandWorkers y = Due.players(1);
+        y.task(1, 0, 0, 0);
+        Due.is("P18 the first task", y.best(0, 0, 0), 0);
+        Due.is("P18 difference 0", y.best(0, 0, 1), 100);
     }
 
     private static void bestRefuses() {
@@ -140,6 +145,10 @@ public final class OutlookTest {
         Due.is("P19 two in 600", x.earns(0, 2, 1), 600);
         x.size(0, 0, 299);
         Due.is("P19 two in 598", x.earns(0, 2, 1), 598);
+        x.put(0, 0, 1);
+        x.pass(298);
+        x.contract(700, 1);
+        Due.is("P19 a second before its end", x.earns(0, 5, 1), 1);
     }
 
     /** A cost is paid before more is gained, so that one work at a time can be paid. */
@@ -279,6 +288,18 @@ public final class OutlookTest {
         x.contract(0, 1);
         x.buy(1, 0);
         Due.is("P21 most goods of most points", x.count(6), 1);
+        for (int price = 1; price <= 100; price *= 10) {
+            SandWorkers y = Due.players(2);
+            y.contract(price, 1);
+            y.contract(0, 1);
+            y.buy(0, 0);
+            y.buy(1, 0);
+            Due.is("P21 each good counts", y.count(6), 1);
+        }
+        SandWorkers alone = Due.players(1);
+        alone.task(1, 1, 0, 0);
+        alone.put(0, 0, 0);
+        Due.is("P21 alone with few goods", alone.count(6), 0);
     }
 
     private static void undoRestores() {
@@ -312,6 +333,63 @@ public final class OutlookTest {
         Due.is("P22 undo of buy", x.undo(), 2);
         Due.is("P22 the contract", x.count(2), 1);
         Due.is("P22 points", x.playerOf(0, 3), 0);
+    }
+
+    /** What looks ahead runs on something else than the game, and each change starts from the game. */
+    private static void looksLeaveNothingBehind() {
+        for (int change = 0; change < 10; change++) {
+            SandWorkers x = Due.players(2);
+            x.task(3, 0, 111, 2);
+            x.contract(0, 1);
+            x.put(0, 0, 0);
+            x.pass(30);
+            x.put(0, 1, 0);
+            Due.type(x, "c1,1;");
+            Due.is("P17 look", x.would(0, 600, 3), 2);
+            Due.isTrue("P22 change " + change, change(x, change) >= 0);
+            Due.is("P17 seconds behind change " + change, x.count(3), change == 8 ? 31 : 30);
+            Due.is("P17 goods behind change " + change, x.playerOf(0, 0), change == 6 ? 7 : 6);
+        }
+        for (int what = 0; what < 3; what++) {
+            SandWorkers x = Due.players(1);
+            x.task(1, 0, 0, 0);
+            x.contract(0, 1);
+            x.put(0, 0, 0);
+            Due.type(x, "b0,0;");
+            x.pass(1);
+            x.earns(0, 0, 0);
+            Due.is("P25 no fault", x.fault(what), Due.MISSING);
+            Due.is("P25 nor then", x.fault(what), Due.MISSING);
+            Due.is("P11 look", x.playerOf(0, 7), 29);
+            Due.is("P11 look again", x.playerOf(0, 7), 29);
+            Due.is("P19 look", x.earns(0, 0, 0), 0);
+            Due.is("P17 look again", x.would(0, 29, 4), 1);
+        }
+    }
+
+    private static int change(SandWorkers x, int which) {
+        switch (which) {
+            case 0:
+                return x.player();
+            case 1:
+                return x.size(1, 0, 7);
+            case 2:
+                return x.task(1, 0, 0, 0);
+            case 3:
+                return x.contract(5, 5);
+            case 4:
+                return x.put(1, 0, 0);
+            case 5:
+                return x.home(0, 0);
+            case 6:
+                return x.flip(0, 1);
+            case 7:
+                return x.buy(0, 0);
+            case 8:
+                return x.pass(1);
+            default:
+                return x.play();
+        }
     }
 
     private static void undoKeepsFour() {

@@ -173,6 +173,12 @@ public final class TextsTest {
         Due.is("P26 seconds", x.count(3), 37);
         Due.is("P26 contracts", x.count(2), 0);
         Due.is("P26 the text stays", x.count(9), 46);
+        SandWorkers y = Due.players(2);
+        Due.type(y, "t1,0,0,0;t3,0,0,0;c1,2;c3,4;b1,1;w1,2,1;");
+        Due.is("P26 numbers above 0", y.play(), 6);
+        Due.is("P26 put on the task 1", y.on(1, 0), 12);
+        Due.is("P26 the contract 1 is bought", y.playerOf(1, 3), 4);
+        Due.is("P26 the contract 0 is left", y.contractOf(0, 0), 1);
     }
 
     private static void playIsOneChange() {

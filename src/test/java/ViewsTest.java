@@ -152,6 +152,14 @@ public final class ViewsTest {
         Due.is("P14 comes back last", x.on(0, 2), 20);
         x.undo();
         Due.is("P14 undo takes it off", x.on(0, 2), Due.MISSING);
+        SandWorkers y = Due.players(1);
+        y.task(3, 0, 0, 0);
+        y.put(0, 0, 0);
+        y.put(0, 2, 0);
+        y.put(0, 1, 0);
+        Due.is("P14 the worker 0 first", y.on(0, 0), 0);
+        Due.is("P14 then the worker 2", y.on(0, 1), 2);
+        Due.is("P14 then the worker 1", y.on(0, 2), 1);
     }
 
     private static void onRefuses() {
