@@ -13,6 +13,7 @@ public final class P02PlayerTest {
         workersAreAtHomeAtFirst();
         theNumberBehindTheLastIsNone();
         waitingBeginsWhenItComes();
+        thoseThatAreThereStayAsTheyAre();
         Due.end();
     }
 
@@ -108,5 +109,27 @@ public final class P02PlayerTest {
         x.pass(1);
         Due.is("P2 a second of waiting", x.workerOf(1, 0, 4), 1);
         Due.is("P2 the first waits for longer", x.workerOf(0, 0, 4), 101);
+    }
+
+    private static void thoseThatAreThereStayAsTheyAre() {
+        SandWorkers x = Due.players(1);
+        x.task(2, 120, 0, 2);
+        x.size(0, 0, 40);
+        x.size(0, 1, 50);
+        x.put(0, 0, 0);
+        x.pass(40);
+        x.put(0, 1, 0);
+        for (int i = 1; i < 4; i++) {
+            x.player();
+            Due.is("P2 good 0 with " + i + " more", x.playerOf(0, 0), 3);
+            Due.is("P2 good 1 with " + i + " more", x.playerOf(0, 1), 1);
+            Due.is("P2 good 2 with " + i + " more", x.playerOf(0, 2), 5);
+            Due.is("P2 points with " + i + " more", x.playerOf(0, 3), 1);
+            Due.is("P2 size with " + i + " more", x.workerOf(0, 0, 0), 40);
+            Due.is("P2 task with " + i + " more", x.workerOf(0, 0, 1), 0);
+            Due.is("P2 sand with " + i + " more", x.workerOf(0, 1, 2), 50);
+            Due.is("P2 waiting with " + i + " more", x.playerOf(0, 6), 80);
+            Due.is("P2 seconds with " + i + " more", x.count(3), 40);
+        }
     }
 }

@@ -9,6 +9,7 @@ public final class P09BuyTest {
         theExactPriceIsEnough();
         aGoodThatLacksOneIsNotThePrice();
         aPriceOfNothingIsAlwaysThere();
+        whatIsGainedLaterDoesNotPay();
         whatIsBoughtIsGone();
         thoseBehindMoveUp();
         theLastOfAllIsGone();
@@ -77,6 +78,21 @@ public final class P09BuyTest {
         x.buy(0, 0);
         Due.is("P9 no price without goods", x.buy(0, 0), 2);
         Due.is("P9 a price without goods", x.buy(0, 0), Due.IMPOSSIBLE);
+    }
+
+    /** A look ahead told that the price would be there; it is not there yet. */
+    private static void whatIsGainedLaterDoesNotPay() {
+        SandWorkers x = Due.players(1);
+        x.task(1, 0, 100, 0);
+        x.contract(600, 1);
+        x.put(0, 0, 0);
+        Due.is("P9 the good is gained at 30", x.would(0, 30, 0), 6);
+        Due.is("P9 it does not pay at 0", x.buy(0, 0), Due.IMPOSSIBLE);
+        x.pass(29);
+        Due.is("P9 it is a second ahead", x.would(0, 1, 0), 6);
+        Due.is("P9 it does not pay at 29", x.buy(0, 0), Due.IMPOSSIBLE);
+        x.pass(1);
+        Due.is("P9 it pays at 30", x.buy(0, 0), 1);
     }
 
     /** "a contract that is bought is gone". */

@@ -22,6 +22,7 @@ public final class P10PassTest {
         aFullPlayerLosesTheWholeGain();
         effectNone();
         effectPoint();
+        pointsByTheEffectHaveNoLimit();
         effectFlipTurnsAllOthersWithSand();
         effectFlipLeavesThoseThatAreOut();
         effectFlipLeavesThoseAtHome();
@@ -296,6 +297,20 @@ public final class P10PassTest {
         Due.is("P10 none of the other", x.playerOf(0, 3), 0);
         Due.is("P10 no flip", x.count(5), 0);
         Due.is("P10 sand runs on", x.workerOf(0, 2, 2), 60);
+    }
+
+    private static void pointsByTheEffectHaveNoLimit() {
+        SandWorkers x = Due.players(1);
+        x.task(1, 0, 0, 2);
+        for (int i = 0; i < 5; i++) {
+            x.contract(0, 20);
+            x.buy(0, 0);
+        }
+        for (int point = 101; point < 105; point++) {
+            x.put(0, 0, 0);
+            x.pass(30);
+            Due.is("P10 a point above 100", x.playerOf(0, 3), point);
+        }
     }
 
     /** "by the effect 1 all other workers on tasks that have sand above are flipped". */

@@ -15,6 +15,7 @@ public final class P11PlayerOfTest {
         soonestOfItsOwn();
         soonestIsASecondAtLeast();
         soonestByFlipsUntilThen();
+        soonestIsToldBeyond600();
         soonestOfOthersIsNotItsOwn();
         notFoundIfNoneHasSandAbove();
         invalidRatherThanNotFound();
@@ -195,6 +196,24 @@ public final class P11PlayerOfTest {
         z.put(0, 0, 0);
         z.put(0, 1, 0);
         Due.is("P11 its own first", z.playerOf(0, 7), 30);
+    }
+
+    /** 00 is flipped at 295 from 7 to 293 by 10, and at 586 from 2 to 298 by 11: it ends at 884. */
+    private static void soonestIsToldBeyond600() {
+        SandWorkers x = Due.players(2);
+        x.task(3, 0, 0, 0);
+        x.task(3, 0, 0, 1);
+        x.size(0, 0, 300);
+        x.size(1, 0, 295);
+        x.size(1, 1, 300);
+        x.put(1, 0, 1);
+        x.pass(2);
+        x.put(0, 0, 0);
+        x.pass(2);
+        x.put(1, 1, 1);
+        Due.is("P11 from second 4 to 884", x.playerOf(0, 7), 880);
+        x.pass(600);
+        Due.is("P11 from second 604 to 884", x.playerOf(0, 7), 280);
     }
 
     private static void soonestOfOthersIsNotItsOwn() {

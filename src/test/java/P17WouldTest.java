@@ -1,3 +1,6 @@
+import java.util.List;
+import java.util.function.ToIntFunction;
+
 /** Promise 17: would. */
 public final class P17WouldTest {
     private P17WouldTest() {
@@ -17,6 +20,7 @@ public final class P17WouldTest {
         atMost99OfAGood();
         isToldBeyond9999();
         changesNothing();
+        changesBehindItStandOnWhatIs();
         Due.end();
     }
 
@@ -177,5 +181,33 @@ public final class P17WouldTest {
     private static void changesNothing() {
         Due.looks("P17 behind 600", P17WouldTest::game, x -> x.would(0, 600, 3), 2);
         Due.looks("P17 behind 0", P17WouldTest::game, x -> x.would(0, 0, 0), 5);
+    }
+
+    private static void changesBehindItStandOnWhatIs() {
+        List<ToIntFunction<SandWorkers>> changes = List.of(x -> x.player(), x -> x.size(0, 1, 7),
+                x -> x.task(1, 0, 0, 0), x -> x.contract(0, 1), x -> x.put(0, 1, 0),
+                x -> x.home(1, 0), x -> x.flip(0, 0), x -> x.buy(0, 0), x -> x.pass(1),
+                x -> x.play());
+        for (int i = 0; i < changes.size(); i++) {
+            SandWorkers asked = ofAllKinds();
+            SandWorkers notAsked = ofAllKinds();
+            asked.would(0, 600, 0);
+            String name = "P17 change " + i + " behind a look of 600";
+            int answer = changes.get(i).applyAsInt(notAsked);
+            Due.isTrue(name + " is possible", answer >= 0);
+            Due.is(name, changes.get(i).applyAsInt(asked), answer);
+            Due.alike(name, asked, notAsked);
+        }
+    }
+
+    /** 00 runs, 10 is out on a task, a contract is laid, and an order is typed. */
+    private static SandWorkers ofAllKinds() {
+        SandWorkers x = game();
+        x.contract(100, 1);
+        x.put(1, 0, 1);
+        x.pass(70);
+        x.put(0, 0, 0);
+        Due.type(x, "w0,1,0;");
+        return x;
     }
 }

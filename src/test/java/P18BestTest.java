@@ -100,6 +100,8 @@ public final class P18BestTest {
         for (int what : Due.outside(0, 1)) {
             Due.looks("P18 none, what " + what, P18BestTest::withNothingPossible, x -> x.best(0, 1, what),
                     Due.INVALID);
+            Due.looks("P18 no tasks, what " + what, () -> Due.players(1), x -> x.best(0, 1, what),
+                    Due.INVALID);
         }
     }
 
