@@ -223,8 +223,9 @@ public final class OutlookTest {
         y.task(1, 0, 0, 0);
         y.size(0, 0, 5);
         y.put(0, 0, 0);
-        for (int seconds = 5; seconds <= 9990; seconds += 15) {
-            y.pass(seconds == 5 ? 5 : 15);
+        // An object is used for at most 512 calls.
+        for (int seconds = 5; seconds <= 9995; seconds += 45) {
+            y.pass(seconds == 5 ? 5 : 45);
             Due.is("P20 5 of " + seconds, y.busy(0, 0), Float.floatToIntBits(5f / seconds));
         }
     }
